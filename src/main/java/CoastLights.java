@@ -434,6 +434,7 @@ public final class CoastLights {
         if (of.count != DAYS - dayNow) {
             return refuse(SIZE);
         }
+        findLandings();
         return firstWrong(of);
     }
 
@@ -738,7 +739,7 @@ public final class CoastLights {
             if (rock == -1) {
                 continue;
             }
-            boolean can = isLight(rock) && lights[rock].canLand(heights[dayNow + i]);
+            boolean can = isLight(rock) && lights[rock].isRock() && lights[rock].landsIn(heights[dayNow + i]);
             if (!can || (landed >> rock & 1) == 1) {
                 return i;
             }
@@ -750,7 +751,6 @@ public final class CoastLights {
                 total += lights[i].overdueOn(DAYS);
             }
         }
-        findLandings();
         return total > landings.least ? of.count : -1;
     }
 
@@ -864,8 +864,8 @@ public final class CoastLights {
             return kind == ROCK || kind == TOWER;
         }
 
-        boolean canLand(int height) {
-            return isRock() && height <= limit;
+        boolean landsIn(int height) {
+            return height <= limit;
         }
 
         int overdueOn(int day) {
@@ -1182,7 +1182,7 @@ public final class CoastLights {
 
         private static boolean landsFrom(Light rock, int[] heights, int day) {
             for (int d = day; d < DAYS; d++) {
-                if (rock.canLand(heights[d])) {
+                if (rock.landsIn(heights[d])) {
                     return true;
                 }
             }
@@ -1212,7 +1212,7 @@ public final class CoastLights {
         private void lookAt(Light[] lights, int day, int height) {
             for (int i = 0; i < rockCount; i++) {
                 Light rock = lights[rocks[i]];
-                today[i] = rock.canLand(height) ? rock.overdueOn(day) : -1;
+                today[i] = rock.landsIn(height) ? rock.overdueOn(day) : -1;
             }
         }
 
