@@ -320,7 +320,8 @@ public final class CoastLights {
             fairwaySights[i] = seenFrom(fairwayCells[i]);
         }
         int best = -1;
-        for (int set = 0; set <= allLights(); set++) {
+        int sets = 1 << lightCount;
+        for (int set = 0; set < sets; set++) {
             boolean fewer = best < 0 || Integer.bitCount(set) < Integer.bitCount(best);
             if (fewer && lightsFairway(set)) {
                 best = set;

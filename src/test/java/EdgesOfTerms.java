@@ -1,3 +1,4 @@
+import java.util.ArrayList;
 import java.util.Arrays;
 import java.util.List;
 
@@ -303,6 +304,24 @@ final class EdgesOfTerms {
             Due.due("ends in time: " + text, fault(text), -1);
             Due.due("ends too late: " + text, fault(text + "s"), text.length());
             Due.due("twice: " + text, fault(text + text), text.length());
+        }
+    }
+
+    /** A TEXT ends where it ends, whatever bytes stood on THE TAPE ahead of it. */
+    static void terms2EndsTooEarlyBehindAnother() {
+        List<String> ahead = new ArrayList<>(Arrays.asList(TEXTS));
+        for (String sign : new String[] {"F", "l", "s", "(", ")", "W", "0", "9"}) {
+            ahead.add(sign.repeat(40));
+        }
+        for (String text : TEXTS) {
+            for (String before : ahead) {
+                for (int length = 0; length < text.length(); length++) {
+                    String early = text.substring(0, length);
+                    CoastLights x = new CoastLights();
+                    Due.light(x, before, 0, 0, 1);
+                    Due.due(early + " behind " + before, Due.light(x, early, 0, 0, 1), -1 - length);
+                }
+            }
         }
     }
 
