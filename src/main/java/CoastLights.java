@@ -771,20 +771,25 @@ public final class CoastLights {
         landingsKnown = false;
     }
 
+    /** Rows are used up to their counts, and sets by shifts of them: no count may go below 0. */
+    private static int oneLess(int count) {
+        return Math.max(0, count - 1);
+    }
+
     private void takeBack(Step step) {
         switch (step.act) {
-            case DID_LIGHT: lightCount--; break;
-            case DID_SECTOR: lights[step.of].sectorCount--; break;
+            case DID_LIGHT: lightCount = oneLess(lightCount); break;
+            case DID_SECTOR: lights[step.of].sectorCount = oneLess(lights[step.of].sectorCount); break;
             case DID_DOUBT: lights[step.of].doubt = step.was; break;
             case DID_HAZE: hazeNow = step.was; break;
             case DID_DAY: dayNow = step.was; break;
-            case DID_BEARING: bearingCount--; break;
+            case DID_BEARING: bearingCount = oneLess(bearingCount); break;
             case DID_CLEAR:
                 bearingCount = step.was;
                 System.arraycopy(step.row, 0, bearings, 0, bearingCount);
                 break;
             case DID_FAIRWAY: setFairway(step.of, step.was == 1); break;
-            case DID_WORD: words.count--; break;
+            case DID_WORD: words.count = oneLess(words.count); break;
             case DID_KEEPER: lights[step.of].since = step.was; break;
             case DID_LIMIT: lights[step.of].limit = step.was; break;
             case DID_SEAS: System.arraycopy(step.row, 0, heights, 0, DAYS); break;

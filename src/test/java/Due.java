@@ -7,6 +7,9 @@ final class Due {
     static final int FULL = -100005;
     static final int NONE = -100006;
 
+    /** So many wrong answers say enough: no more need be asked. */
+    static final int ENOUGH_WRONG = 20;
+
     static final int MIN = Integer.MIN_VALUE;
     static final int MAX = Integer.MAX_VALUE;
 

@@ -98,16 +98,13 @@ final class Edge {
     /** The call answers so, and is a question: no later call shows that it was asked. */
     Edge tells(String call, int want) {
         tries(call, want);
-        Shown after = new Shown(with(call));
-        same(call, after, 0);
-        return this;
+        return same(call, with(call), 0);
     }
 
     /** The call answers a finding; no later call shows that it was made, but for the count of all(6). */
     Edge refused(String call, int finding) {
         tries(call, finding);
-        same(call, new Shown(with(call)), 1);
-        return this;
+        return same(call, with(call), 1);
     }
 
     /** The numbers from one to another one are taken for '#'; a step to each side, and far off, BEYOND is told. */
@@ -127,8 +124,7 @@ final class Edge {
     Edge undone(String act) {
         List<String> more = with(act);
         more.add("undo()");
-        same(act + ", undone", new Shown(more), 0);
-        return this;
+        return same(act + ", undone", more, 0);
     }
 
     /** No later call tells this run from another one, but for so many findings more. */
@@ -147,13 +143,18 @@ final class Edge {
         return more;
     }
 
-    private void same(String call, Shown after, int findingsMore) {
+    private Edge same(String call, List<String> behind, int findingsMore) {
+        if (Due.wrong() >= Due.ENOUGH_WRONG) {
+            return this;
+        }
         if (shownNow == null) {
             shownNow = new Shown(new ArrayList<>(run));
         }
+        Shown after = new Shown(behind);
         Due.due(name + ": all(6) behind " + call, after.findings, shownNow.findings + findingsMore);
         String difference = after.differenceTo(shownNow);
         Due.hold(name + ": " + call + " is shown by " + difference, difference == null);
+        return this;
     }
 
     private static CoastLights again(List<String> calls) {

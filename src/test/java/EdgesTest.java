@@ -23,8 +23,11 @@ public final class EdgesTest {
             for (Method method : methods) {
                 if (method.getName().matches("(promise\\d\\d|terms\\d|whatItIs)[A-Z].*")) {
                     ofWhat.add(method.getName().replaceAll("(?<=\\d|Is)[A-Z].*", ""));
-                    run(method);
                     tests++;
+                    // A class that is wrong throughout may be slow, too: then the first tests say enough.
+                    if (Due.wrong() < Due.ENOUGH_WRONG) {
+                        run(method);
+                    }
                 }
             }
         }

@@ -26,9 +26,9 @@ public final class RunsTest {
 
     public static void main(String[] args) {
         int runs = args.length > 0 ? Integer.parseInt(args[0]) : RUNS;
-        for (int run = 0; run < runs && Due.wrong() < 20; run++) {
+        for (int run = 0; run < runs && Due.wrong() < Due.ENOUGH_WRONG; run++) {
             RunsTest test = new RunsTest(run);
-            for (int call = 0; call < CALLS && Due.wrong() < 20; call++) {
+            for (int call = 0; call < CALLS && Due.wrong() < Due.ENOUGH_WRONG; call++) {
                 test.step("run " + run + ", call " + call + ": ");
             }
         }
