@@ -836,8 +836,8 @@ public final class CoastLights {
             long whole = (1L << seconds) - 1;
             for (int i = 0; i < seconds; i++) {
                 long row = (lit >> i | lit << (seconds - i)) & whole;
-                for (int known = seconds; known < 64; known *= 2) {
-                    row |= row << known;
+                for (int second = seconds; second < 64; second++) {
+                    row |= (row >> (second - seconds) & 1) << second;
                 }
                 phases[i] = row;
             }

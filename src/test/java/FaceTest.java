@@ -118,19 +118,69 @@ public final class FaceTest {
                 Due.hold("sign " + (int) sign + " in the program", false);
             }
         }
-        methodsAreShort(code);
+        library(code);
+        loops(code);
+        methods(code);
     }
 
-    private static void methodsAreShort(String code) {
-        Matcher start = Pattern.compile("(?m)^( +)(?:public|private|static|final|int|long|boolean|void|Step|Past)[^;=]*\\) \\{$").matcher(code);
-        Map<String, Integer> lengths = new HashMap<>();
+    /** Rule 4: of the library the program uses these alone. */
+    private static void library(String code) {
+        Set<String> known = Set.of("Math.max", "Math.min", "Integer.bitCount", "Long.bitCount", "System.arraycopy");
+        Matcher call = Pattern.compile("\\b[A-Z]\\w*\\.\\w+(?=\\()").matcher(code);
+        while (call.find()) {
+            Due.hold("the program calls " + call.group(), known.contains(call.group()));
+        }
+        Matcher made = Pattern.compile("\\bnew (\\w+)").matcher(code);
+        Set<String> types = new HashSet<>(Set.of("int", "long", "boolean"));
+        for (Class<?> type : CoastLights.class.getDeclaredClasses()) {
+            types.add(type.getSimpleName());
+        }
+        while (made.find()) {
+            Due.hold("the program makes a " + made.group(1), types.contains(made.group(1)));
+        }
+        Due.hold("the program has texts", code.indexOf('"') < 0);
+    }
+
+    /** Rule 9: each for has a counter that goes by one towards a bound, and a while a bound of its own. */
+    private static void loops(String code) {
+        Matcher loop = Pattern.compile("\\b(?:for|while|do)\\b[^\n]*").matcher(code);
+        Pattern counted = Pattern.compile("for \\(int (\\w+) = [^;]+; [^;]*\\b\\1\\b( \\+ \\w+)?( <| <=| >=) [^;]+; \\1(\\+\\+|--)\\) \\{"
+            + "|for \\(int level = 0; level < [^;]+; level\\+\\+\\) \\{|while \\(\\w+ < \\w+ && .*\\{");
+        int loops = 0;
+        while (loop.find()) {
+            Due.hold("the program has the loop " + loop.group(), counted.matcher(loop.group()).matches());
+            loops++;
+        }
+        Due.hold("loops were found", loops > 30);
+    }
+
+    /** Rule 11: methods of at most sixty lines; calls at most eight deep. Rule 8: here none calls itself. */
+    private static void methods(String code) {
+        Matcher start = Pattern.compile("(?m)^( +)(?:public|private|static|final|int|long|boolean|void|Step|Past)[^;=]*?(\\w+)\\([^;=]*\\) \\{$").matcher(code);
+        Map<String, String> bodies = new HashMap<>();
+        int found = 0;
         while (start.find()) {
             int end = code.indexOf("\n" + start.group(1) + "}", start.end());
-            lengths.put(start.group().trim(), code.substring(start.start(), end).split("\n").length);
+            String body = code.substring(start.end(), end);
+            Due.hold(start.group().trim() + " is too long", body.split("\n").length <= 60);
+            // Two classes may have a method of one name: what either of them calls is taken for both.
+            bodies.merge(start.group(2), body, String::concat);
+            found++;
         }
-        Due.hold("methods were found", lengths.size() > 90);
-        for (Map.Entry<String, Integer> one : lengths.entrySet()) {
-            Due.hold(one.getKey() + " has " + one.getValue() + " lines", one.getValue() <= 60);
+        Due.hold("methods were found", found > 90);
+        for (String name : bodies.keySet()) {
+            Due.hold("calls behind " + name + " go too deep", depthOf(name, bodies, 1) <= 8);
         }
+    }
+
+    private static int depthOf(String name, Map<String, String> bodies, int open) {
+        int deepest = 1;
+        Matcher call = Pattern.compile("\\b(\\w+)\\(").matcher(bodies.get(name));
+        while (open <= 9 && call.find()) {
+            if (bodies.containsKey(call.group(1))) {
+                deepest = Math.max(deepest, 1 + depthOf(call.group(1), bodies, open + 1));
+            }
+        }
+        return deepest;
     }
 }

@@ -1,3 +1,4 @@
+import java.lang.management.ManagementFactory;
 import java.lang.reflect.Array;
 import java.lang.reflect.Field;
 import java.lang.reflect.InvocationTargetException;
@@ -25,6 +26,7 @@ public final class RoomTest {
             neverThrows(state);
         }
         room();
+        madeByCalls();
         Due.end();
     }
 
@@ -136,5 +138,44 @@ public final class RoomTest {
         count(x);
         System.out.println("with 10 ROCKS: " + objects + " objects, " + elements + " elements");
         Due.hold("THE LANDINGS keep to their room", objects < 150 && elements < 30000);
+    }
+
+    /** What 512 calls make, also of what is not kept: THE LANDINGS' rows as they grow, and nothing else. */
+    private static void madeByCalls() {
+        CoastLights x = new CoastLights();
+        long before = made();
+        int calls = 0;
+        for (int i = 0; i < 10; i++) {
+            x.feed(2, 22342);
+            x.light(1 + 2 * (i % 2), 25 * i, 15);
+            x.overdue();
+            calls += 3;
+        }
+        x.sheet(0, 8, 20);
+        calls++;
+        long grown = made();
+        while (calls + 10 <= 512) {
+            x.haze(calls % 16);
+            x.fix(false);
+            x.kept();
+            x.seas(0);
+            x.overdue();
+            x.bearing(calls % 10, 0, 15);
+            x.clear();
+            x.undo();
+            x.proves(0);
+            x.allApart(1023);
+            calls += 10;
+        }
+        long rest = made() - grown;
+        System.out.println("512 calls with 10 ROCKS make " + (grown - before) + " bytes, and then " + rest);
+        // 2 + 4 + .. + 1024 sets times 21 numbers of 4 bytes, and what the measuring itself makes.
+        Due.hold("THE LANDINGS grow within their room", grown - before < 250000);
+        Due.hold("the other calls make nothing", rest < 10000);
+    }
+
+    private static long made() {
+        return ((com.sun.management.ThreadMXBean) ManagementFactory.getThreadMXBean())
+            .getThreadAllocatedBytes(Thread.currentThread().getId());
     }
 }
