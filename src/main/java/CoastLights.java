@@ -833,9 +833,8 @@ public final class CoastLights {
             colour = text.colour;
             seconds = Math.max(1, Math.min(MOST_SECONDS, text.period));
             lit = text.litSeconds();
-            long whole = (1L << seconds) - 1;
             for (int i = 0; i < seconds; i++) {
-                long row = (lit >> i | lit << (seconds - i)) & whole;
+                long row = lit >> i | lit << (seconds - i);
                 for (int second = seconds; second < 64; second++) {
                     row |= (row >> (second - seconds) & 1) << second;
                 }

@@ -118,9 +118,28 @@ public final class FaceTest {
                 Due.hold("sign " + (int) sign + " in the program", false);
             }
         }
+        headings(text);
         library(code);
         loops(code);
         methods(code);
+    }
+
+    /** "Ahead of the calls .. the interface says: ---- the list", and so on: each heading, then its calls in order. */
+    private static void headings(String text) {
+        String[] want = {
+            "---- the list", "feed", "light", "as", "lightIs", "at", "sector", "doubt",
+            "---- seeing", "direction", "colour", "seen", "haze", "day", "apart", "allApart", "fits",
+            "---- fixes, fairway", "bearing", "clear", "fix", "may", "fairway", "kept",
+            "---- outages", "word", "out",
+            "---- keepers", "keeper", "limit", "seas", "overdue", "landing", "proves",
+            "---- sheets, the whole", "sheet", "put", "copy", "undo", "all",
+        };
+        Matcher there = Pattern.compile("(?m)^    (?:// (---- .*)|public int (\\w+)\\(.*)$").matcher(text);
+        for (String one : want) {
+            boolean found = there.find();
+            String is = !found ? "nothing" : there.group(1) != null ? there.group(1) : there.group(2);
+            Due.hold("the interface says " + is + ", due is " + one, is.equals(one));
+        }
     }
 
     /** Rule 4: of the library the program uses these alone. */
